@@ -225,7 +225,7 @@ public final class RightIfAsMany {
     // ---- rests, payments, evenings
 
     public int rests(int n) {
-        return n < 0 || n > MOST_AT_REST ? OUTSIDE : moves.restingRows(rules, 0, n);
+        return n < 0 || n > MOST_AT_REST ? OUTSIDE : moves.rowsAtRest(rules, n);
     }
 
     public int pay(int person, int amount) {
@@ -1005,7 +1005,6 @@ public final class RightIfAsMany {
     private static final class Moves {
         private final int[] now = new int[NUMBERS];
         private final int[] next = new int[NUMBERS];
-        private final int[] resting = new int[NUMBERS];
 
         int correct(Rules rules, People people) {
             // All look at once, so the counts stay as they were till the last one wrote.
@@ -1049,21 +1048,26 @@ public final class RightIfAsMany {
             return changed;
         }
 
+        int rowsAtRest(Rules rules, int n) {
+            Arrays.fill(now, 0);
+            return restingRows(rules, now, 0, n);
+        }
+
         /** Rows alike but for their order rest alike: each set of numbers is looked at once. */
-        int restingRows(Rules rules, int number, int left) {
+        private static int restingRows(Rules rules, int[] counts, int number, int left) {
             if (left <= 0) {
-                return rules.areAtRest(resting) ? 1 : 0;
+                return rules.areAtRest(counts) ? 1 : 0;
             }
-            if (!isNumber(number)) {
+            if (!isNumber(number) || number >= counts.length) {
                 return 0;
             }
-            int found = restingRows(rules, number + 1, left);
+            int found = restingRows(rules, counts, number + 1, left);
             if (rules.isOpen(number)) {
                 for (int many = 1; many <= left; many++) {
-                    resting[number] = many;
-                    found += choose(left, many) * restingRows(rules, number + 1, left - many);
+                    counts[number] = many;
+                    found += choose(left, many) * restingRows(rules, counts, number + 1, left - many);
                 }
-                resting[number] = 0;
+                counts[number] = 0;
             }
             return found;
         }

@@ -89,7 +89,8 @@ public final class RestsTest {
         RightIfAsMany x = Check.told("T00100P1P2P2P3");
         Check.due("nobody was PAID", x.cheated(), NONE);
         x.pay(8, 5);
-        Check.due("one that is not there", x.cheated(), NONE);
+        x.pay(4, 5);
+        Check.due("two that are not there", x.cheated(), NONE);
         x.pay(0, 33);
         Check.due("PAID what it gets", x.cheated(), NONE);
         x.pay(3, 1);
@@ -107,7 +108,9 @@ public final class RestsTest {
         Check.refused("cheated()", x, before, x.cheated(), NONE);
         x.slip(3, 9);
         x.come(5);
-        Check.due("one that was not PAID", x.cheated(), NONE);
+        Check.due("one bears the number that was PAID", x.cheated(), 4);
+        x.pay(4, 0);
+        Check.due("PAID nothing as it gets", x.cheated(), NONE);
         x.leave(0);
         Check.due("what they get is another", x.cheated(), 0);
         for (int person = 4; person < 8; person++) {

@@ -144,6 +144,10 @@ public final class TableTest {
         dueFault("T00000P0P1P2P3P4P5P6P7P8N", 25);
         dueFault("T00000P0P1P2P3P4P5P6P7P8N9", NONE);
         dueFault("T00000P0P1P2P3P4P5P6P7P8N9N", 26);
+        dueFault("T00000P1P2P3P4P5P6P7P8P9N", 25);
+        dueFault("T00000P1P2P3P4P5P6P7P8P9N0", NONE);
+        dueFault("T00000P1P2P3P4P5P6P7P8P9N1", 25);
+        dueFault("T00000P1P2P3P4P5P6P7P8P9N0N", 26);
         dueFault("T00000N0N1N2N3N4N5N6N7P8P9", NONE);
         dueFault("T00000N0N1N2N3N4N5N6N7P8P9N", 26);
         dueFault("T00000N0N1N2N3N4N5N6N7P8P8N", 27);
@@ -254,6 +258,8 @@ public final class TableTest {
         duePerson("T01100P1P2", 3, 1, 2);
         duePerson("T00100P2P2", 3, 1, 1);
         duePerson("T00100N1P2P2", 3, 2, 2);
+        duePerson("T10100P9", 3, 0);
+        duePerson("T10100P1P9", 3, 1, 0);
         duePerson("T11100P0P0", 3, 1, 1);
         duePerson("T11100P0P1P1", 3, 1, 1, 1);
         duePerson("T11100P0P2P1", 3, 1, 1, 1);
