@@ -147,6 +147,13 @@ public final class BoundMovesTest {
         // The second 9 by law 2 gets 999 times 9 by 18, cut; 8 gets less.
         dueWanted("T21999P8P9", 9, 9);
         dueWanted("T01100P1P2", 1, 2);
+        // Whoever goes from 2 to 1 leaves the other one wrong, and has all for itself.
+        dueWanted("T00100P2P2", 1, 1);
+        dueWanted("T00100N1P2P2", 2, 2);
+        dueWanted("T01100P3P3P2", 1, 1, 1);
+        // The third 2 gets a third; whoever goes from two of them has 1, and all, for itself.
+        dueWanted("T11100P0P2P2", 2, 1, 1);
+        dueWanted("T10100P2P2P2", 2, 2, 2);
     }
 
     private static void wantsOfLikeOnes() {
@@ -190,6 +197,12 @@ public final class BoundMovesTest {
         dueRests("T21999" + ONLY_9, 1, 1, 1, 1, 1);
         dueRests("T20100", 1, 9, 80);
         dueRests("T00000P1P1P1P1P1P1P1P1P1", 1, 10);
+        // Whoever is there does not count, whatever was asked before.
+        RightIfAsMany x = Check.told("T00100P1");
+        Check.due("settled()", x.settled(), 0);
+        Check.due("rests(1)", x.rests(1), 1);
+        Check.due("round()", x.round(), 0);
+        Check.due("rests(2)", x.rests(2), 19);
         Twin.beyondByAll("rests", 0, 4, RightIfAsMany::rests, OUTSIDE);
     }
 

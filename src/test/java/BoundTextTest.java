@@ -330,7 +330,11 @@ public final class BoundTextTest {
         dueFault("T00000P3P5N4P3P5", NONE);
         // Where each number is BARRED or written, N can have no number behind it.
         dueFault("T00000P0P1P2P3P4P5P6P7P8N", 25);
+        dueFault("T00000P0P1P2P3P4P5P6P7P8N9", NONE);
         dueFault("T00000P0P1P2P3P4P5P6P7P8N9N", 26);
+        dueFault("T00000P1P2P3P4P5P6P7P8P9N", 25);
+        dueFault("T00000P1P2P3P4P5P6P7P8P9N0", NONE);
+        dueFault("T00000P1P2P3P4P5P6P7P8P9N0N", 26);
         dueFault("T00000N0N1N2N3N4N5N6N7P8N", 25);
         dueFault("T00000N0N1N2N3N4N5N6N7P8P9N", 26);
     }
