@@ -114,68 +114,67 @@ public final class ChancesTest {
         dueMean(most, 1, 1, 2);
     }
 
-    private static void refusalsOfChances() {
+    private static void dueRefused(int tenthsOf0, int tenthsOf1, int n, int want) {
         RightIfAsMany x = Check.told("T00100P1P2");
-        for (int sum = 0; sum < 2; sum++) {
-            // First ten together, then nine: the number is looked at first.
-            x.tenths(1, 10 - sum);
-            String before = Check.seen(x);
-            for (int n : new int[] {-1, 10, Integer.MIN_VALUE, Integer.MAX_VALUE}) {
-                Check.refused("allRight(" + n + ", true)", x, before, x.allRight(n, true), OUTSIDE);
-                Check.refused("allRight(" + n + ", false)", x, before, x.allRight(n, false), OUTSIDE);
-                Check.refused("mean(" + n + ", true)", x, before, x.mean(n, true), OUTSIDE);
-                Check.refused("mean(" + n + ", false)", x, before, x.mean(n, false), OUTSIDE);
-            }
+        x.tenths(0, tenthsOf0);
+        x.tenths(1, tenthsOf1);
+        String before = Check.seen(x);
+        Check.refused("allRight(" + n + ", true)", x, before, x.allRight(n, true), want);
+        Check.refused("allRight(" + n + ", false)", x, before, x.allRight(n, false), want);
+        Check.refused("mean(" + n + ", true)", x, before, x.mean(n, true), want);
+        Check.refused("mean(" + n + ", false)", x, before, x.mean(n, false), want);
+    }
+
+    private static void refusalsOfChances() {
+        for (int n : new int[] {-1, 10, Integer.MIN_VALUE, Integer.MAX_VALUE}) {
+            // Ten together, then nine: the number is looked at first.
+            dueRefused(0, 10, n, OUTSIDE);
+            dueRefused(0, 9, n, OUTSIDE);
         }
-        for (int other : new int[] {0, 2, 10}) {
-            x.tenths(0, other);
-            String before = Check.seen(x);
-            for (int n = 0; n <= 9; n += 3) {
-                Check.refused("allRight(" + n + ", true)", x, before, x.allRight(n, true), STATE);
-                Check.refused("allRight(" + n + ", false)", x, before, x.allRight(n, false), STATE);
-                Check.refused("mean(" + n + ", true)", x, before, x.mean(n, true), STATE);
-                Check.refused("mean(" + n + ", false)", x, before, x.mean(n, false), STATE);
-            }
+        for (int n = 0; n <= 9; n += 3) {
+            dueRefused(0, 9, n, STATE);
+            dueRefused(2, 9, n, STATE);
+            dueRefused(10, 9, n, STATE);
         }
     }
 
     // Promise 21
-    private static void dueForget(RightIfAsMany x, int person, int tenths, long above, long below) {
-        String call = "forget(" + person + ", " + tenths + ", ";
+    private static void dueForget(String table, int person, int tenths, long above, long below) {
+        RightIfAsMany x = Check.told(table);
+        x.tenths(1, 3);
+        String call = table + ": forget(" + person + ", " + tenths + ", ";
         String before = Check.seen(x);
         Check.refused(call + "true)", x, before, x.forget(person, tenths, true), above);
         Check.refused(call + "false)", x, before, x.forget(person, tenths, false), below);
     }
 
     private static void forget() {
-        RightIfAsMany x = Check.told("T00000P1P2P2P3P3P3P3P0P5");
-        x.tenths(1, 3);
-        dueForget(x, 0, 0, 1, 1);
-        dueForget(x, 0, 3, 7, 10);
-        dueForget(x, 0, 10, 0, 1);
-        dueForget(x, 1, 2, 16, 25);
-        dueForget(x, 2, 2, 16, 25);
+        String table = "T00000P1P2P2P3P3P3P3P0P5";
+        dueForget(table, 0, 0, 1, 1);
+        dueForget(table, 0, 3, 7, 10);
+        dueForget(table, 0, 10, 0, 1);
+        dueForget(table, 1, 2, 16, 25);
+        dueForget(table, 2, 2, 16, 25);
         // Four wrote 3: it is right if one of the three others forgets.
-        dueForget(x, 3, 0, 0, 1);
-        dueForget(x, 3, 5, 3, 16);
-        dueForget(x, 6, 1, 2187, 10000);
-        dueForget(x, 7, 5, 0, 1);
-        dueForget(x, 8, 0, 0, 1);
+        dueForget(table, 3, 0, 0, 1);
+        dueForget(table, 3, 5, 3, 16);
+        dueForget(table, 6, 1, 2187, 10000);
+        dueForget(table, 7, 5, 0, 1);
+        dueForget(table, 8, 0, 0, 1);
         for (int wrong : new int[] {-1, 11, Integer.MIN_VALUE, Integer.MAX_VALUE}) {
-            dueForget(x, 0, wrong, OUTSIDE, OUTSIDE);
-            dueForget(x, 9, wrong, UNKNOWN, UNKNOWN);
-            dueForget(x, wrong, 5, UNKNOWN, UNKNOWN);
+            dueForget(table, 0, wrong, OUTSIDE, OUTSIDE);
+            dueForget(table, 9, wrong, UNKNOWN, UNKNOWN);
+            dueForget(table, wrong, 5, UNKNOWN, UNKNOWN);
         }
-        RightIfAsMany nine = Check.told("T00000P9P9P9P9P9P9P9P9P9");
-        dueForget(nine, 8, 1, 387420489, 1000000000);
+        dueForget("T00000P9P9P9P9P9P9P9P9P9", 8, 1, 387420489, 1000000000);
     }
 
     private static void forgetByLaw() {
-        RightIfAsMany least = Check.told("T10000P2P2P2P0");
+        String least = "T10000P2P2P2P0";
         dueForget(least, 0, 0, 1, 1);
         dueForget(least, 0, 5, 3, 8);
         dueForget(least, 3, 4, 3, 5);
-        RightIfAsMany most = Check.told("T20000P1P1P0");
+        String most = "T20000P1P1P0";
         dueForget(most, 0, 0, 0, 1);
         dueForget(most, 0, 5, 1, 4);
         dueForget(most, 2, 1, 0, 1);

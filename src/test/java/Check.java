@@ -68,7 +68,8 @@ final class Check {
     /** What the people wrote, in their order. */
     static String people(RightIfAsMany x) {
         StringBuilder all = new StringBuilder();
-        for (int person = 0; person < x.count(1); person++) {
+        int size = x.count(1);
+        for (int person = 0; person < size; person++) {
             all.append(x.person(person, 0));
         }
         return all.toString();

@@ -2,9 +2,11 @@ import java.util.Random;
 
 /** All promises: long runs of calls, right and wrong ones, each held against the slow model. */
 public final class ModelTest {
-    private static final int RUNS = 1500;
-    private static final int CALLS = 400;
-    private static final int CALLS_TO_SEE_ALL = 60;
+    private static final int RUNS = 7500;
+    /** No object is used for more calls than the document promises. */
+    private static final int CALLS = 512;
+    /** What one turn of a run can take: a text byte by byte, and all looked at, then and at the end. */
+    private static final int CALLS_OF_A_TURN = 110;
     /** Rows that the slow model may try for one call. */
     private static final double DEAR = 12000;
 
@@ -12,6 +14,7 @@ public final class ModelTest {
     private final RightIfAsMany x = new RightIfAsMany();
     private final SlowModel y = new SlowModel();
     private final String run;
+    private int calls = 0;
 
     private ModelTest(int run) {
         this.random = new Random(run);
@@ -26,17 +29,18 @@ public final class ModelTest {
     }
 
     private void go() {
-        for (int call = 0; call < CALLS && Check.allAsDue(); call++) {
+        while (calls <= CALLS - CALLS_OF_A_TURN && Check.allAsDue()) {
             if (random.nextInt(40) == 0) {
                 tellTable();
             } else {
-                anyCall(random.nextInt(30));
+                anyCall(random.nextInt(31));
             }
-            if (call < CALLS_TO_SEE_ALL) {
+            if (random.nextInt(40) == 0) {
                 same();
             }
         }
         same();
+        Check.holds(run + calls + " calls", calls <= CALLS);
     }
 
     private void same() {
@@ -50,6 +54,7 @@ public final class ModelTest {
     }
 
     private void due(String call, long a, long b, long got, long want) {
+        calls++;
         Check.due(run + call + "(" + a + ", " + b + ")", got, want);
     }
 
@@ -72,7 +77,7 @@ public final class ModelTest {
     }
 
     private int aboutPerson() {
-        return about(0, Math.max(0, x.count(1) - 1));
+        return about(0, Math.max(0, y.count(1) - 1));
     }
 
     private void writeBoth(int n, long v) {
@@ -147,7 +152,7 @@ public final class ModelTest {
 
     private void callOfRowsOrChances(int which) {
         int n = about(0, 9);
-        int people = x.count(1);
+        int people = y.count(1);
         boolean dear = isDear(y.openMany(), n);
         boolean dearToWrite = isDear(y.written().size(), n);
         int person = aboutPerson();
@@ -194,7 +199,7 @@ public final class ModelTest {
     private void callOfTheRest(int which) {
         int person = aboutPerson();
         int anybody = about(0, 8);
-        int amount = random.nextInt(3) > 0 ? Math.max(0, x.person(anybody, 2)) : about(0, 999);
+        int amount = random.nextInt(3) > 0 ? Math.max(0, y.person(anybody, 2)) : about(0, 999);
         int n = random.nextInt(20) == 0 ? about(0, 4) : about(0, 2);
         int m = about(1, 40);
         int slot = about(0, 1);

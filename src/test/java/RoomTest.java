@@ -2,7 +2,9 @@ import java.lang.management.ManagementFactory;
 
 /** All calls of a run live in one room: a call makes no object, and a new object is small. */
 public final class RoomTest {
-    private static final int ROUNDS = 300;
+    private static final int OBJECTS = 40;
+    /** No object is used for more than 512 calls; a round has 55. */
+    private static final int ROUNDS = 8;
     private static final int MOST_BYTES_OF_AN_OBJECT = 2500;
 
     private static long sink = 0;
@@ -10,17 +12,23 @@ public final class RoomTest {
     public static void main(String[] args) {
         com.sun.management.ThreadMXBean threads =
             (com.sun.management.ThreadMXBean) ManagementFactory.getThreadMXBean();
-        RightIfAsMany x = Check.told("T21407N0P5N9P1P5P3P3P2P2P8");
-        everyCall(x, 0);
+        RightIfAsMany[] told = new RightIfAsMany[OBJECTS];
+        for (int i = 0; i < OBJECTS; i++) {
+            told[i] = Check.told("T21407N0P5N9P1P5P3P3P2P2P8");
+        }
+        everyCall(new RightIfAsMany(), 0);
         long id = Thread.currentThread().getId();
         threads.getThreadAllocatedBytes(id);
         long before = threads.getThreadAllocatedBytes(id);
-        for (int round = 0; round < ROUNDS; round++) {
-            everyCall(x, round);
+        for (int i = 0; i < OBJECTS; i++) {
+            for (int round = 0; round < ROUNDS; round++) {
+                everyCall(told[i], i + round);
+            }
         }
         long bytes = threads.getThreadAllocatedBytes(id) - before;
         // What the measure itself makes is not counted a call: it is less than a byte each.
-        Check.holds(bytes + " bytes made by " + ROUNDS + " rounds of calls", bytes < ROUNDS * 30L);
+        long rounds = (long) OBJECTS * ROUNDS;
+        Check.holds(bytes + " bytes made by " + rounds + " rounds of calls", bytes < rounds * 30);
         RightIfAsMany[] many = new RightIfAsMany[1000];
         before = threads.getThreadAllocatedBytes(id);
         for (int i = 0; i < many.length; i++) {

@@ -82,19 +82,26 @@ public final class SlotsTest {
     }
 
     // Promise 30
-    private static void count() {
+    private static RightIfAsMany counted() {
         RightIfAsMany x = Check.told("T21985N0N9P3P3P1");
         x.come(1);
         x.slip(3, 2);
         x.pay(4, 4);
         x.pay(4, 4);
         x.pay(5, 4);
+        return x;
+    }
+
+    private static void count() {
         int[] want = {16, 4, 15, 513, 2, 3, 985, 2, 1, 2};
-        String before = Check.seen(x);
         for (int what = 0; what <= 9; what++) {
+            RightIfAsMany x = counted();
+            String before = Check.seen(x);
             Check.refused("count(" + what + ")", x, before, x.count(what), want[what]);
         }
         for (int what : new int[] {-1, 10, Integer.MIN_VALUE, Integer.MAX_VALUE}) {
+            RightIfAsMany x = counted();
+            String before = Check.seen(x);
             Check.refused("count(" + what + ")", x, before, x.count(what), OUTSIDE);
         }
     }

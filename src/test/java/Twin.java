@@ -117,7 +117,8 @@ final class Twin {
             all.append(' ').append(x.count(what));
         }
         all.append(" people ");
-        for (int person = 0; person < x.count(1); person++) {
+        int size = x.count(1);
+        for (int person = 0; person < size; person++) {
             for (int what = 0; what <= 3; what++) {
                 all.append(x.person(person, what)).append(' ');
             }
