@@ -1041,7 +1041,7 @@ public final class RightIfAsMany {
                     int number = rules.corrected(own, now);
                     if (isNumber(number)) {
                         next[number] += now[own];
-                        changed |= number != own;
+                        changed = changed || number != own;
                     }
                 }
             }

@@ -8,6 +8,7 @@ import java.util.Arrays;
  * section no word may be left that no test has named.
  */
 final class Doc {
+    private static String raw;
     private static String document;
     private static String section = "";
     private static boolean[] named = new boolean[0];
@@ -19,10 +20,16 @@ final class Doc {
     static void open(String[] args) {
         Path path = Path.of(args.length > 0 ? args[0] : ".", "..", "shared", "DOC.md");
         try {
-            document = plain(Files.readString(path));
+            raw = Files.readString(path);
+            document = plain(raw);
         } catch (IOException e) {
             System.out.println("there is no document at " + path + ": its words are not looked at");
         }
+    }
+
+    /** The document with its lines; null where there is none. */
+    static String lines() {
+        return raw;
     }
 
     private static String plain(String text) {
